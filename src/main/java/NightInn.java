@@ -103,6 +103,7 @@ public final class NightInn {
         reader.inn = inn;
         inn = told;
         moveIn();
+        casts.tryOut(0, 0);
         return answer(inn.sleepers);
     }
 
@@ -362,7 +363,7 @@ public final class NightInn {
         if (casts.gather(notes, BOTH_BOOKS) == 0) {
             return refuse(EMPTY);
         }
-        casts.tryOut(setting);
+        casts.tryOut(setting, setting);
         return answer(casts.mostAlike(setting, setting));
     }
 
@@ -373,7 +374,7 @@ public final class NightInn {
         if (casts.gather(notes, BOTH_BOOKS) == 0) {
             return refuse(EMPTY);
         }
-        casts.tryAll();
+        casts.tryOut(0, inn.settings() - 1);
         return answer(casts.bestSetting());
     }
 
@@ -384,8 +385,8 @@ public final class NightInn {
         if (casts.gather(notes, BOTH_BOOKS) == 0) {
             return refuse(EMPTY);
         }
-        casts.tryOut(setting);
-        casts.tryOut(other);
+        casts.tryOut(setting, setting);
+        casts.tryOut(other, other);
         return answer(casts.mostAlike(setting, other));
     }
 
@@ -394,7 +395,7 @@ public final class NightInn {
         if (!isBelow(one, count) || !isBelow(other, count) || one == other) {
             return refuse(NO_SUCH);
         }
-        casts.tryAll();
+        casts.tryOut(0, inn.settings() - 1);
         return answer(bit(casts.areAlike(one, other)));
     }
 
@@ -403,7 +404,7 @@ public final class NightInn {
             return refuse(NO_SUCH);
         }
         casts.gather(notes, BOTH_BOOKS);
-        casts.tryAll();
+        casts.tryOut(0, inn.settings() - 1);
         return answer(casts.alikePairs());
     }
 
@@ -628,43 +629,42 @@ public final class NightInn {
                 at++;
             }
             start = at;
-            if (at >= end) {
-                kind = END;
-            } else if (isLetter(bytes[at])) {
-                readWord();
-            } else if (isDigit(bytes[at])) {
-                readWhole();
-            } else {
-                kind = bytes[at] == ';' ? SEMICOLON : bytes[at] == ',' ? COMMA : NO_TOKEN;
-                at++;
-            }
-        }
-
-        private void readWord() {
             code = 0;
             while (at < end && isLetter(bytes[at])) {
                 code = joined(code, bytes[at]);
                 at++;
             }
-            kind = at - start <= WORD_LETTERS ? WORD : NO_TOKEN;
-            mayName = kind == WORD && !Word.isKept(code);
-        }
-
-        private void readWhole() {
+            int letters = at - start;
             value = 0;
-            while (at < end && isDigit(bytes[at])) {
+            while (letters == 0 && at < end && isDigit(bytes[at])) {
                 value = value * 10 + bytes[at] - '0';
                 at++;
             }
-            kind = at - start <= WHOLE_DIGITS ? WHOLE : NO_TOKEN;
+            int digits = at - start - letters;
+            if (letters > 0) {
+                kind = letters <= WORD_LETTERS ? WORD : NO_TOKEN;
+            } else if (digits > 0) {
+                kind = digits <= WHOLE_DIGITS ? WHOLE : NO_TOKEN;
+            } else {
+                kind = passSign();
+            }
+            mayName = kind == WORD && !Word.isKept(code);
+        }
+
+        private int passSign() {
+            if (at >= end) {
+                return END;
+            }
+            byte sign = bytes[at];
+            at++;
+            if (sign == ';') {
+                return SEMICOLON;
+            }
+            return sign == ',' ? COMMA : NO_TOKEN;
         }
 
         boolean isAt(Word word) {
             return kind == WORD && code == word.code;
-        }
-
-        boolean isAtName() {
-            return kind == WORD && mayName;
         }
 
         private static boolean isLetter(int sign) {
@@ -950,7 +950,7 @@ public final class NightInn {
         }
 
         private boolean passNew(int sort, int count) {
-            if (!tape.isAtName()) {
+            if (!tape.mayName) {
                 return fail(FORM);
             }
             if (placeOfName() != NONE) {
@@ -981,7 +981,7 @@ public final class NightInn {
         }
 
         private boolean passDream() {
-            if (!tape.isAtName()) {
+            if (!tape.mayName) {
                 return fail(FORM);
             }
             int place = placeOfName();
@@ -1011,7 +1011,7 @@ public final class NightInn {
         }
 
         private boolean lookUp(int sort) {
-            if (!tape.isAtName()) {
+            if (!tape.mayName) {
                 return fail(FORM);
             }
             int place = placeOfName();
@@ -1486,7 +1486,16 @@ public final class NightInn {
             rows[row + MAX_LISTENERS] = found;
         }
 
-        boolean areSame(int cast, int other) {
+        /** The first cast, this one at the latest, that has the same morning. */
+        int firstLike(int cast) {
+            int first = 0;
+            while (first < cast && !areSame(first, cast)) {
+                first++;
+            }
+            return first;
+        }
+
+        private boolean areSame(int cast, int other) {
             for (int i = 0; i < ROW; i++) {
                 if (rows[cast * ROW + i] != rows[other * ROW + i]) {
                     return false;
@@ -1550,12 +1559,14 @@ public final class NightInn {
 
     /**
      * All casts of an inn, and those of them that fit. What a cast comes to by morning
-     * hangs on the inn and the setting alone, so it is tried once, when it is asked for first.
+     * hangs on the inn and the setting alone, so it is tried once: without a setting
+     * when the inn is told, since every note asks for that, else when it is asked for first.
      */
     private static final class Casts {
         private final Night trial;
         private Inn inn;
         private int count;
+        /** A row for each cast; the first is of dream 0 alone, whatever the inn. */
         private final int[] dreams = new int[MAX_CASTS * MAX_SLEEPERS];
         private final Mornings plain = new Mornings();
         private final Mornings set = new Mornings();
@@ -1579,9 +1590,6 @@ public final class NightInn {
             for (int s = 0; s < inn.sleepers; s++) {
                 count *= inn.dreams;
             }
-            for (int s = 0; s < MAX_SLEEPERS; s++) {
-                dreams[s] = 0;
-            }
             for (int cast = 1; cast < count; cast++) {
                 fillFromBefore(cast);
             }
@@ -1599,35 +1607,27 @@ public final class NightInn {
             }
         }
 
-        void tryOut(int setting) {
-            if (tried[setting]) {
-                return;
-            }
-            tried[setting] = true;
-            Mornings mornings = setting == 0 ? plain : set;
-            trial.prepare(inn, setting);
-            for (int cast = 0; cast < count; cast++) {
-                trial.begin(dreams, cast * MAX_SLEEPERS);
-                trial.pass(inn.minutes);
-                mornings.keep(cast, trial);
-                int first = 0;
-                while (first < cast && !mornings.areSame(first, cast)) {
-                    first++;
+        /** Finds by trial what mornings the casts come to with the settings that aren't tried yet. */
+        void tryOut(int firstSetting, int lastSetting) {
+            for (int setting = firstSetting; setting <= lastSetting; setting++) {
+                if (tried[setting]) {
+                    continue;
                 }
-                kin[setting * MAX_CASTS + cast] = first;
-            }
-        }
-
-        void tryAll() {
-            for (int setting = 0; setting < inn.settings(); setting++) {
-                tryOut(setting);
+                tried[setting] = true;
+                Mornings mornings = setting == 0 ? plain : set;
+                trial.prepare(inn, setting);
+                for (int cast = 0; cast < count; cast++) {
+                    trial.begin(dreams, cast * MAX_SLEEPERS);
+                    trial.pass(inn.minutes);
+                    mornings.keep(cast, trial);
+                    kin[setting * MAX_CASTS + cast] = mornings.firstLike(cast);
+                }
             }
         }
 
         /** Finds the casts that fit, for the calls that follow: how many. */
         int gather(Notes notes, int books) {
             fitting = 0;
-            tryOut(0);
             for (int cast = 0; cast < count; cast++) {
                 if (notes.areSo(books, plain, cast)) {
                     fitters[fitting] = cast;

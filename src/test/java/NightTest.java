@@ -137,6 +137,18 @@ public final class NightTest {
         check.due("who is there is met, and then does nothing by a STATE untold", x.sleeper(1, 1), 3);
         check.due("a STATE untold has no met", x.sleeper(2, 1), 0);
 
+        // A met of 0 is told, too.
+        NightInn zero = check.told("inn minutes 9;room a creak 0;room b creak 0;door a,b;"
+            + "dream x 0 wait then 1;dream x 1 go b then 3 met 0;dream y 0 wait then 2;dream y 2 wait then 2 met 0;"
+            + "sleeper p bed a dreams x;sleeper q bed b dreams y");
+        zero.minutes(1);
+        check.due("STATE of who goes", zero.sleeper(0, 1), 1);
+        check.due("STATE of who is there", zero.sleeper(1, 1), 2);
+        zero.minutes(1);
+        check.due("STATE 0 of who has come", zero.sleeper(0, 1), 0);
+        check.due("STATE 0, and 2 by waiting", zero.sleeper(1, 1), 2);
+        check.due("who waits is met first", zero.called(0, 1, 2), 1);
+
         // Who comes to nobody meets nobody; who was there already is not met by standing there.
         NightInn y = check.told("inn minutes 9;room a creak 0;room b creak 0;door a,b;"
             + "dream x 0 go b then 0 met 1;dream y 0 wait then 0 met 2;"
@@ -403,6 +415,8 @@ public final class NightTest {
         check.due("DREAM by MARK 2", x.sleeper(0, 4), 1);
         check.agreed(x, "back(1)", x.back(1));
         check.due("size(7) by MARK 1", x.size(7), 9);
+        check.due("AWAKE by MARK 1", x.sleeper(0, 3), 1);
+        check.due("full no more by MARK 1", x.thing(0, 1), 0);
         check.agreed(x, "back(0) once more", x.back(0));
         check.due("size(7) by MARK 0", x.size(7), 2);
         check.due("MARKS stay", x.size(9), 3);

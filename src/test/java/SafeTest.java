@@ -47,6 +47,12 @@ public final class SafeTest {
         NightInn y = check.told("inn minutes 1;room a creak 0;room b creak 0;room c creak 0;room d creak 0;room e creak 0;"
             + "door a,b;door b,c;door c,d;door d,e;dream x 0 wait then 0;sleeper p bed a dreams x;sleeper q bed e dreams x");
         keeps(y, 2, 1 + 4);
+        // Every door there is, and none of them at the first room.
+        NightInn all = check.told("inn minutes 1;room a creak 0;room b creak 0;room c creak 0;room d creak 0;"
+            + "door b,c;door d,c;dream x 0 wait then 0;sleeper p bed b dreams x;sleeper q bed d dreams x");
+        keeps(all, 2, 1 + 2);
+        keeps(all, 0, 0);
+        keeps(all, 3, -2);
         NightInn z = check.told("inn minutes 1;room a creak 0;room b creak 0;room c creak 0;room d creak 0;"
             + "door a,b;door a,c;door b,d;door c,d;door b,c;room e creak 0;door d,e;"
             + "dream x 0 wait then 0;sleeper p bed a dreams x");
@@ -137,6 +143,71 @@ public final class SafeTest {
         check.agreed(x, "nightfall(0)", x.nightfall(0));
         check.denied(x, "strike()", x.strike(), 6);
         check.plain(x, "verdict()", x.verdict(), 0);
+        noTroubleBehind();
+    }
+
+    /** Each call that may be refused, and isn't, behind one that was. */
+    private static void noTroubleBehind() {
+        NightInn x = check.told("inn minutes 2;room a creak 0;room b creak 0;door a,b;thing k in a;dream x 0 go b then 0;"
+            + "dream y 0 wait then 0;sleeper p bed a dreams x;listens a");
+        for (int call = 0; call < 32; call++) {
+            x.far(-1, -1);
+            switch (call) {
+                case 0 -> x.far(0, 1);
+                case 1 -> x.room(0, 0);
+                case 2 -> x.door(0, 1);
+                case 3 -> x.dream(0, 0, 0);
+                case 4 -> x.nightfall(0);
+                case 5 -> x.dreams(0, 1);
+                case 6 -> x.minutes(1);
+                case 7 -> x.morning();
+                case 8 -> x.thing(0, 0);
+                case 9 -> x.thing(0, 1);
+                case 10 -> x.thing(0, 2);
+                case 11 -> x.doorway(0, 0);
+                case 12 -> x.heard(0, 1);
+                case 13 -> x.creaks(0);
+                case 14 -> x.called(0, 0, 0);
+                case 15 -> x.mark();
+                case 16 -> x.back(0);
+                case 17 -> x.noteHeard(0, 0, 1, false);
+                case 18 -> x.noteThing(0, 0, 0);
+                case 19 -> x.noteDoor(0, 0, 0);
+                case 20 -> x.strike();
+                case 21 -> x.fits(0);
+                case 22 -> x.fit(0, 0, 0);
+                case 23 -> x.sure(0);
+                case 24 -> x.verdict();
+                case 25 -> x.parts(0);
+                case 26 -> x.best();
+                case 27 -> x.told(0, 1);
+                case 28 -> x.alike(0, 1);
+                case 29 -> x.never();
+                case 30 -> x.safe(1);
+                default -> x.walks(1);
+            }
+            check.due("trouble() behind call " + call + " behind one refused", x.trouble(), 0);
+        }
+        for (int what = 0; what < 5; what++) {
+            x.far(-1, -1);
+            x.sleeper(0, what);
+            check.due("trouble() behind sleeper(0, " + what + ")", x.trouble(), 0);
+        }
+        for (int how = 0; how < 4; how++) {
+            x.noteDoor(how % 2, 0, how / 2 == 0 ? 1 : 0);
+            x.noteDoor(1 - how % 2, 0, 2);
+            x.far(-1, -1);
+            x.verdict();
+            check.due("trouble() behind verdict()", x.trouble(), 0);
+            x.strike();
+            x.strike();
+        }
+        x.far(-1, -1);
+        Check.tell(x, "inn minutes 2;room a creak 0;dream x 0 wait then 0;sleeper p bed a dreams x");
+        check.due("trouble() behind inn()", x.trouble(), 0);
+        x.far(-1, -1);
+        x.safely(0);
+        check.due("trouble() behind safely()", x.trouble(), 0);
     }
 
     private static void noInn() {

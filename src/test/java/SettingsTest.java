@@ -17,6 +17,8 @@ public final class SettingsTest {
         whatAMorningTells();
         best();
         toldByTwo();
+        lastSetting();
+        innAnew();
         alike();
         noneFits();
         noInn();
@@ -135,6 +137,42 @@ public final class SettingsTest {
         check.plain(y, "told(3, 3)", y.told(3, 3), 2);
         check.plain(y, "told(1, 3)", y.told(1, 3), 1);
         check.plain(y, "told(0, 3)", y.told(0, 3), 2);
+    }
+
+    /** Only the lock on the last door tells x, who tips first, from y, who tips when it is back. */
+    private static final String LAST = "inn minutes 9;room a creak 0;room b creak 0;room c creak 0;door b,c;door a,b;"
+        + "thing k in a full;dream x 0 tip k then 1;dream x 1 go b then 1;"
+        + "dream y 0 go b then 1;dream y 1 go a then 2;dream y 2 tip k then 3;dream y 3 go b then 3;sleeper p bed a dreams x";
+
+    private static void lastSetting() {
+        int[] due = {2, 2, 2, 2, 1};
+        for (int setting = 0; setting < 5; setting++) {
+            NightInn x = check.told(LAST);
+            check.plain(x, "told(" + setting + ", 0)", x.told(setting, 0), due[setting]);
+            x = check.told(LAST);
+            check.plain(x, "told(0, " + setting + ")", x.told(0, setting), due[setting]);
+            x = check.told(LAST);
+            check.plain(x, "parts(" + setting + ")", x.parts(setting), due[setting]);
+        }
+        NightInn x = check.told(LAST);
+        check.plain(x, "best()", x.best(), 4);
+        x = check.told(LAST);
+        check.plain(x, "alike(0, 1)", x.alike(0, 1), 0);
+        x = check.told(LAST);
+        check.plain(x, "never()", x.never(), 0);
+    }
+
+    /** What was found of one inn is not said of the next. */
+    private static void innAnew() {
+        NightInn x = new NightInn();
+        String waiting = LAST.replace("go b", "wait").replace("go a", "wait").replace("tip k", "wait");
+        for (int i = 0; i < 4; i++) {
+            Check.tell(x, i % 2 == 0 ? LAST : waiting);
+            check.plain(x, "parts(0)", x.parts(0), 2);
+            check.plain(x, "parts(4)", x.parts(4), i % 2 == 0 ? 1 : 2);
+            check.plain(x, "best()", x.best(), i % 2 == 0 ? 4 : 0);
+            check.plain(x, "never()", x.never(), i % 2);
+        }
     }
 
     private static void alike() {

@@ -11,6 +11,8 @@ public final class TextTest {
         tape();
         innAnswers();
         innBeginsAnew();
+        innByInn();
+        innEndsWithinAToken();
         tokens();
         form();
         names();
@@ -121,6 +123,42 @@ public final class TextTest {
         check.due("a STATE of the inn before", x.dream(1, 1, 0), -1);
         x.nightfall(0);
         check.due("DREAM as told, at the next nightfall", x.sleeper(0, 4), 0);
+    }
+
+    /** Of an inn nothing is left two inns later, whether there was a fault between or not. */
+    private static void innByInn() {
+        NightInn x = new NightInn();
+        String much = "inn minutes 9;room a creak 1 cold;room b creak 1;room c creak 1;door a,b locked;door b,c falls;"
+            + "thing k in a full;thing l in b;dream x 0 go b then 0 met 1;dream x 1 put then 1;dream y 0 wait then 0;"
+            + "sleeper p bed b dreams y;sleeper q bed c dreams x;sleeper r bed c dreams x;listens a;listens c";
+        String little = "inn minutes 2;room c creak 0;dream x 3 wait then 0;sleeper a bed c dreams x";
+        int[] sizesOfMuch = {3, 2, 2, 2, 3, 2, 9, 0, 0, 0, 0, 0};
+        int[] sizesOfLittle = {1, 0, 0, 1, 1, 0, 2, 0, 0, 0, 0, 0};
+        for (int i = 0; i < 12; i++) {
+            boolean isMuch = i % 4 < 2;
+            check.plain(x, "inn " + i, Check.tell(x, isMuch ? much : little), isMuch ? 3 : 1);
+            for (int what = 0; what < 12; what++) {
+                check.due("size(" + what + ") of inn " + i, x.size(what), (isMuch ? sizesOfMuch : sizesOfLittle)[what]);
+            }
+            check.due("cold", x.room(0, 1), isMuch ? 1 : 0);
+            check.due("STATE 0", x.dream(0, 0, 0), isMuch ? 0 : -1);
+            check.due("STATE 3", x.dream(0, 3, 0), isMuch ? -1 : 4);
+            check.due("fits(3)", x.fits(3), isMuch ? 8 : 1);
+            x.parts(0);
+            if (i > 6) {
+                check.due("a fault between", Check.tell(x, much + ";room z"), -1);
+            }
+        }
+    }
+
+    /** The first n bytes are the text, even if what stands behind would go on with its last token. */
+    private static void innEndsWithinAToken() {
+        NightInn x = new NightInn();
+        Check.feed(x, LEAST + "yz");
+        check.plain(x, "inn that ends in a WORD", x.inn(LEAST.length()), 1);
+        Check.feed(x, LEAST.substring("inn minutes 1;".length()) + ";inn minutes 12");
+        check.plain(x, "inn that ends in a WHOLE", x.inn(LEAST.length()), 1);
+        check.due("size(6)", x.size(6), 1);
     }
 
     private static void tokens() {
