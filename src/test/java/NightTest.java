@@ -76,6 +76,16 @@ public final class NightTest {
         rooms(y, 0, 0, 0);
         check.due("no way: STATE", y.sleeper(0, 1), 0);
         check.due("no way: nobody led", Check.led(y, 0), -1);
+        // The most rooms and doors, and no way from the last room, but for one that a SETTING unlocks.
+        NightInn z = check.told("inn minutes 9;room a creak 0;room b creak 0;room c creak 0;room d creak 0;room e creak 0;"
+            + "room f creak 0;room g creak 0;room h creak 0;door a,b;door b,c;door c,d;door d,e;door e,f;door f,g;door a,c;"
+            + "door a,d;door a,e;door h,g locked;dream x 0 go a then 0;sleeper p bed h dreams x;sleeper q bed a dreams x");
+        rooms(z, 0, 7, 7);
+        z.nightfall(20);
+        rooms(z, 0, 7, 7);
+        z.nightfall(19);
+        rooms(z, 0, 6, 5, 4, 0, 0);
+        check.denied(z, "nightfall(21)", z.nightfall(21), 1);
     }
 
     private static void doorsThatFall() {
@@ -413,6 +423,8 @@ public final class NightTest {
         check.agreed(x, "back(2)", x.back(2));
         check.due("size(7) by MARK 2", x.size(7), 3);
         check.due("DREAM by MARK 2", x.sleeper(0, 4), 1);
+        check.due("not AWAKE by MARK 2", x.sleeper(0, 3), 0);
+        check.due("full by MARK 2", x.thing(0, 1), 1);
         check.agreed(x, "back(1)", x.back(1));
         check.due("size(7) by MARK 1", x.size(7), 9);
         check.due("AWAKE by MARK 1", x.sleeper(0, 3), 1);

@@ -160,6 +160,33 @@ public final class SettingsTest {
         check.plain(x, "alike(0, 1)", x.alike(0, 1), 0);
         x = check.told(LAST);
         check.plain(x, "never()", x.never(), 0);
+        // Only without a SETTING x shuts what y leaves open.
+        NightInn first = check.told("inn minutes 9;room a creak 0;room b creak 0;door a,b;dream x 0 shut b then 1;"
+            + "dream y 0 wait then 1;sleeper p bed a dreams x");
+        check.plain(first, "parts(0)", first.parts(0), 1);
+        check.plain(first, "parts(1)", first.parts(1), 2);
+        check.plain(first, "parts(2)", first.parts(2), 2);
+        check.plain(first, "best()", first.best(), 0);
+        check.plain(first, "alike(0, 1)", first.alike(0, 1), 0);
+        check.plain(first, "never()", first.never(), 0);
+        mostSettings();
+    }
+
+    /** Ten doors, four dreams, three sleepers: all casts in twenty-one settings. */
+    private static void mostSettings() {
+        NightInn x = check.told("inn minutes 40;room a creak 0;room b creak 0;room c creak 0;room d creak 0;room e creak 0;"
+            + "room f creak 0;room g creak 0;room h creak 0;door a,b;door b,c;door c,d;door d,e;door e,f;door f,g;door g,h;"
+            + "door a,c;door a,d;door a,e;dream x 0 wait then 0;dream y 0 go h then 0;dream z 0 go h then 0;dream u 1 put then 0;"
+            + "sleeper p bed a dreams x;sleeper q bed h dreams x;sleeper r bed a dreams x");
+        // All stay but p and r, each of whom goes to h by two dreams of four; a shut door opens for these.
+        check.plain(x, "parts(0)", x.parts(0), 16);
+        check.plain(x, "parts(20)", x.parts(20), 16);
+        check.plain(x, "parts(13)", x.parts(13), 16);
+        check.plain(x, "parts(14), which locks h", x.parts(14), 64);
+        check.plain(x, "best()", x.best(), 0);
+        check.plain(x, "never()", x.never(), 4 * (16 * 15 / 2));
+        check.plain(x, "alike(63, 0)", x.alike(63, 0), 1);
+        check.refused(x, "parts(21)", x.parts(21), 1);
     }
 
     /** What was found of one inn is not said of the next. */
@@ -172,6 +199,13 @@ public final class SettingsTest {
             check.plain(x, "parts(4)", x.parts(4), i % 2 == 0 ? 1 : 2);
             check.plain(x, "best()", x.best(), i % 2 == 0 ? 4 : 0);
             check.plain(x, "never()", x.never(), i % 2);
+            x.noteDoor(0, 0, 0);
+            check.plain(x, "fits(1)", x.fits(1), 2);
+        }
+        for (int i = 0; i < 4; i++) {
+            Check.tell(x, LAST.replace("tip k", i % 2 == 0 ? "take k" : "wait"));
+            x.noteThing(0, 0, 1);
+            check.plain(x, "fits(1) of inn " + i, x.fits(1), i % 2 == 0 ? 2 : 0);
         }
     }
 

@@ -335,6 +335,11 @@ public final class TextTest {
         check.due("size(2) at most", check.told(LEAST + ";thing k in a;thing l in a;thing m in a;thing n in a").size(2), 4);
         check.due("size(3) at most", check.told(dreams + "inn minutes 1;sleeper u bed a dreams s").size(3), 4);
         check.due("size(4) at most", check.told(sleepers + "inn minutes 1").size(4), 3);
+        // All names that there can be are known, up to the last one.
+        String names = rooms + "thing k in a;thing l in a;thing m in a;thing n in a;dream p 0 wait then 0;dream q 0 wait then 0;"
+            + "dream r 0 wait then 0;dream s 0 wait then 0;sleeper t bed a dreams p;sleeper u bed a dreams p;sleeper v bed a dreams s;";
+        check.due("inn of all names", check.told(names + "inn minutes 1").size(4), 3);
+        check.faultyAt(names + "dream !v", 3);
         check.due("size(5) at most", check.told(sleepers + "inn minutes 1;listens a;listens b;room z creak 0;listens z").size(5), 3);
     }
 
