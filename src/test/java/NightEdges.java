@@ -44,6 +44,7 @@ final class NightEdges {
         called();
         mark();
         back();
+        markKeepsAll();
         nightBegins();
         untoldState();
         goWhereItIs();
@@ -536,6 +537,52 @@ final class NightEdges {
         check.due("nor DREAMS as set", called(noted), 1);
     }
 
+    private void markKeepsAll() {
+        check.promise(21, "MARKS: each keeps the NIGHT");
+        String text = "inn minutes 9;room a creak 2;room b creak 2;room c creak 1 cold;door a,b falls;door b,c;door a,c locked;"
+            + "thing k in a full;thing l in a;dream x 0 take k then 1;dream x 1 go b then 2;dream x 2 tip k then 3;dream x 3 go c then 3;"
+            + "dream y 0 take l then 1;dream y 1 wait then 2;dream y 2 go b then 3;dream y 3 put then 0;"
+            + "sleeper p bed a dreams x;sleeper q bed a dreams y;listens a;listens c";
+        for (int setting = 0; setting <= 6; setting++) {
+            for (int minutes = 0; minutes <= 9; minutes++) {
+                NightInn x = check.told(text);
+                x.nightfall(setting);
+                if (minutes > 0) {
+                    x.minutes(minutes);
+                }
+                String due = night(x);
+                x.mark();
+                String next = behindOne(x);
+                x.nightfall((setting + 3) % 7);
+                x.minutes((minutes + 4) % 9 + 1);
+                x.back(0);
+                check.due("the NIGHT by a MARK, SETTING " + setting + ", MINUTE " + minutes, night(x), due);
+                check.due("and a MINUTE later", behindOne(x), next);
+            }
+        }
+    }
+
+    private static String behindOne(NightInn x) {
+        x.minutes(1);
+        return night(x);
+    }
+
+    /** All that can be seen of a night of two sleepers, two things, three doors and two who listen. */
+    private static String night(NightInn x) {
+        StringBuilder seen = new StringBuilder();
+        seen.append(x.size(7)).append(' ').append(x.size(10));
+        for (int i = 0; i < 10; i++) {
+            seen.append(' ').append(x.sleeper(i / 5, i % 5));
+        }
+        for (int i = 0; i < 6; i++) {
+            seen.append(' ').append(x.thing(i / 3, i % 3)).append(' ').append(x.doorway(i / 2, i % 2));
+        }
+        for (int minute = 1; minute <= 9; minute++) {
+            seen.append(' ').append(x.heard(0, minute)).append(x.heard(1, minute));
+        }
+        return seen.append(' ').append(x.creaks(0)).append(x.creaks(1)).toString();
+    }
+
     /** So many marks: of nights with settings 0, 2, 4 behind 0, 2, 4 minutes. */
     private NightInn marked(int marks) {
         NightInn x = some();
@@ -704,7 +751,21 @@ final class NightEdges {
                 check.due("STATE of " + s + " by " + mets, x.sleeper(s, 1), (mets >> s & 1) == 1 ? 2 : 0);
             }
         }
+        check.promise(12, "its STATE is met, if told: a met of 0, too");
+        NightInn zero = check.told("inn minutes 5;room a creak 0;room b creak 0;door a,b;dream x 0 wait then 1;"
+            + "dream x 1 go b then 3 met 0;dream y 0 wait then 2;dream y 2 put then 2 met 0;"
+            + "sleeper q bed b dreams y;sleeper p bed a dreams x");
+        zero.minutes(2);
+        check.due("STATE of who comes", zero.sleeper(1, 1), 0);
+        check.due("STATE of who is there", zero.sleeper(0, 1), 0);
         check.promise(12, "if other sleepers are there: who comes to nobody meets nobody");
+        NightInn elsewhere = check.told("inn minutes 5;room a creak 0;room b creak 0;room c creak 0;door a,b;"
+            + "dream x 0 go b then 1 met 2;dream y 0 put then 0 met 3;sleeper p bed a dreams x;sleeper q bed a dreams y;"
+            + "sleeper r bed c dreams y");
+        elsewhere.minutes(1);
+        for (int s = 0; s < 3; s++) {
+            check.due("STATE of " + s + ", the others being elsewhere", elsewhere.sleeper(s, 1), 0);
+        }
         NightInn alone = check.told("inn minutes 5;room a creak 0;room b creak 0;door a,b;dream x 0 go b then 1 met 2;"
             + "sleeper p bed a dreams x");
         alone.minutes(1);

@@ -38,11 +38,15 @@ final class NotesEdges {
         told();
         alike();
         never();
+        lastSettingTells();
+        innAnew();
         withoutASetting();
+        notesOfEach();
         morningOfSleepers();
         morningOfThings();
         morningOfDoors();
         morningOfAll();
+        morningOfOnePart();
         morningOfWhoListens();
     }
 
@@ -424,17 +428,26 @@ final class NotesEdges {
         check.answers(check.told(ALL_WAIT), 0, "best() of all alike", NightInn::best);
         String row = "inn minutes 9;room a creak 0;room b creak 0;room c creak 0;room d creak 0;room e creak 0;room f creak 0;"
             + "room g creak 0;room h creak 0;door a,b;door b,c;door c,d;door d,e;door e,f;door f,g;door g,a;door a,c;door a,d;door a,h;";
-        check.answers(check.told(row + "thing k in h full;dream x 0 go h then 1;dream x 1 tip k then 2;dream y 0 go h then 1;"
-            + "dream y 1 wait then 2;dream y 2 tip k then 3;sleeper p bed h dreams x"), 0, "best() of two alike", NightInn::best);
+        String same = row + "thing k in h full;dream x 0 go h then 1;dream x 1 tip k then 2;dream y 0 go h then 1;"
+            + "dream y 1 wait then 2;dream y 2 tip k then 3;sleeper p bed h dreams x";
+        check.answers(check.told(same), 0, "best() of two alike", NightInn::best);
+        check.promise(33, "ALIKE: in all SETTINGS of ten doors");
+        check.answers(check.told(same), 1, "alike(0, 1) of two alike", x -> x.alike(0, 1));
+        check.promise(34, "ALIKE: in all SETTINGS of ten doors");
+        check.answers(check.told(same), 1, "never() of two alike", NightInn::never);
+        check.promise(31, "BEST: the SETTING with the least, of ten doors");
         // x tips k and goes off to a; y goes to a first, comes back, tips k and goes off, too: the last of ten doors
         // being locked, x alone tips k.
-        NightInn last = check.told(row + "thing k in h full;dream x 0 tip k then 1;dream x 1 go a then 1;dream y 0 go a then 1;"
-            + "dream y 1 go h then 2;dream y 2 tip k then 3;dream y 3 go a then 3;sleeper p bed h dreams x");
+        String text = row + "thing k in h full;dream x 0 tip k then 1;dream x 1 go a then 1;dream y 0 go a then 1;"
+            + "dream y 1 go h then 2;dream y 2 tip k then 3;dream y 3 go a then 3;sleeper p bed h dreams x";
+        check.answers(check.told(text), 20, "best() by the last SETTING", NightInn::best);
+        check.answers(check.told(text), 0, "alike(0, 1), told apart by the last SETTING", x -> x.alike(0, 1));
+        check.answers(check.told(text), 0, "never(), told apart by the last SETTING", NightInn::never);
+        NightInn last = check.told(text);
         for (int setting = 0; setting < 20; setting++) {
             check.due("parts(" + setting + ")", last.parts(setting), 2);
         }
         check.due("parts(20)", last.parts(20), 1);
-        check.answers(last, 20, "best() by the last SETTING", NightInn::best);
         // x goes through the last door and comes back: shut at nightfall, it tells who opened it.
         check.answers(check.told(row + "dream x 0 go h then 1;dream x 1 go a then 1;dream y 0 wait then 0;sleeper p bed a dreams x"),
             19, "best() by the last SETTING but one", NightInn::best);
@@ -463,6 +476,7 @@ final class NotesEdges {
         // One SETTING tells x, another y; both of them all.
         String two = "inn minutes 5;room a creak 0;room b creak 0;room c creak 0;door a,b;door a,c;dream x 0 go b then 1;"
             + "dream x 1 go a then 1;dream y 0 go c then 1;dream y 1 go a then 1;dream z 0 wait then 0;sleeper p bed a dreams x";
+        check.answers(check.told(two), 1, "best() of like ones", NightInn::best);
         check.answers(check.told(two), 2, "told(1, 1)", x -> x.told(1, 1));
         check.answers(check.told(two), 2, "told(3, 3)", x -> x.told(3, 3));
         check.answers(check.told(two), 1, "told(1, 3)", x -> x.told(1, 3));
@@ -525,6 +539,50 @@ final class NotesEdges {
         check.answers(x, 0, "never() of x alone", NightInn::never);
     }
 
+    /** Only with the last door locked x, who tips first, is told from y, who tips when it is back. */
+    private static final String LAST = "inn minutes 9;room a creak 0;room b creak 0;room c creak 0;door b,c;door a,b;"
+        + "thing k in a full;dream x 0 tip k then 1;dream x 1 go b then 1;"
+        + "dream y 0 go b then 1;dream y 1 go a then 2;dream y 2 tip k then 3;dream y 3 go b then 3;sleeper p bed a dreams x";
+
+    private void lastSettingTells() {
+        check.promise(33, "ALIKE: in all SETTINGS, the last of them, too");
+        check.answers(check.told(LAST), 0, "alike(0, 1)", x -> x.alike(0, 1));
+        check.promise(34, "pairs that are ALIKE: in all SETTINGS, the last of them, too");
+        check.answers(check.told(LAST), 0, "never()", NightInn::never);
+        check.promise(31, "the SETTING with the least, the last of them, too");
+        check.answers(check.told(LAST), 4, "best()", NightInn::best);
+        int[] due = {2, 2, 2, 2, 1};
+        for (int setting = 0; setting < 5; setting++) {
+            int asked = setting;
+            check.promise(30, "PARTS of a SETTING");
+            check.answers(check.told(LAST), due[setting], "parts(" + setting + ")", x -> x.parts(asked));
+            check.promise(32, "TOLD by two SETTINGS");
+            check.answers(check.told(LAST), due[setting], "told(0, " + setting + ")", x -> x.told(0, asked));
+            check.answers(check.told(LAST), due[setting], "told(" + setting + ", 0)", x -> x.told(asked, 0));
+        }
+    }
+
+    private void innAnew() {
+        check.promise(30, "PARTS of the INN that is told, not of one before");
+        NightInn x = new NightInn();
+        String waiting = LAST.replace("go b", "wait").replace("go a", "wait").replace("tip k", "wait");
+        for (int turn = 0; turn < 4; turn++) {
+            boolean tells = turn % 2 == 0;
+            Check.tell(x, tells ? LAST : waiting);
+            check.answers(x, tells ? 1 : 2, "parts(4)", y -> y.parts(4));
+            check.answers(x, tells ? 4 : 0, "best()", NightInn::best);
+            check.answers(x, tells ? 0 : 1, "never()", NightInn::never);
+            check.answers(x, tells ? 0 : 1, "alike(1, 0)", y -> y.alike(1, 0));
+            check.answers(x, 2, "told(0, 2)", y -> y.told(0, 2));
+            x.noteThing(0, 0, 0);
+            check.answers(x, 2, "fits(3)", y -> y.fits(3));
+        }
+        Check.tell(x, THREE);
+        x.noteThing(0, 0, 1);
+        check.answers(x, 1, "fits(3) of another INN", y -> y.fits(3));
+        check.answers(x, 1, "parts(2) of another INN", y -> y.parts(2));
+    }
+
     private void withoutASetting() {
         check.promise(26, "A CAST FITS if all NOTES of these are so, without a SETTING");
         for (int setting = 0; setting < 3; setting++) {
@@ -537,6 +595,56 @@ final class NotesEdges {
             check.due("the NIGHT stays", x.size(7), 2);
             check.due("its SETTING stays", x.size(10), setting);
             check.due("its DREAM stays", x.sleeper(0, 4), 0);
+        }
+    }
+
+    private void notesOfEach() {
+        // Nobody goes: each thing is in its room, each door is as told, and nothing else can be noted of it.
+        String still = FULL.substring(0, FULL.indexOf(";dream")) + ";dream x 0 wait then 0;sleeper p bed a dreams x";
+        check.promise(23, "A NOTE: a THING in a ROOM, of each THING and each ROOM");
+        for (int[] rooms : new int[][] {{0, 1, 2, 7}, {7, 0, 5, 3}, {1, 7, 7, 6}, {4, 4, 3, 2}}) {
+            String text = still;
+            for (int t = 0; t < 4; t++) {
+                text = text.replaceFirst("thing " + "klmn".charAt(t) + " in .", "thing " + "klmn".charAt(t) + " in " + "abcdefgh".charAt(rooms[t]));
+            }
+            NightInn x = check.told(text);
+            for (int t = 0; t < 4; t++) {
+                for (int room = 0; room < 8; room++) {
+                    x.noteThing(t % 2, t, room);
+                    check.due("fits(3) by THING " + t + " in " + room, x.fits(3), room == rooms[t] ? 1 : 0);
+                    x.strike();
+                }
+            }
+        }
+        check.promise(24, "A NOTE: a door open, shut, locked, of each door");
+        String rooms = still.substring(0, still.indexOf(";door"));
+        for (int first = 0; first < 3; first++) {
+            StringBuilder text = new StringBuilder(rooms);
+            for (int d = 0; d < 10; d++) {
+                text.append(";door ").append((char) ('a' + d / 6)).append(',').append((char) ('c' + d % 6));
+                text.append(new String[] {"", " shut", " locked"}[(first + d) % 3]);
+            }
+            NightInn x = check.told(text + ";dream x 0 wait then 0;sleeper p bed a dreams x");
+            for (int d = 0; d < 10; d++) {
+                for (int how = 0; how < 3; how++) {
+                    x.noteDoor(d % 2, d, how);
+                    check.due("fits(3) by door " + d + " being " + how, x.fits(3), how == (first + d) % 3 ? 1 : 0);
+                    x.strike();
+                }
+            }
+        }
+        check.promise(22, "A NOTE: HEARD by one in a MINUTE, of each one and each MINUTE");
+        // p goes round: b, c and d are heard each in its turn, by who is there alone.
+        NightInn x = check.told("inn minutes 12;room a creak 0;room b creak 1;room c creak 1;room d creak 1;door b,c;door c,d;door d,b;"
+            + "dream x 0 go b then 1;dream x 1 go c then 2;dream x 2 go d then 0;sleeper p bed d dreams x;listens c;listens d;listens b");
+        int[] heard = {2, 0, 1};
+        for (int who = 0; who < 3; who++) {
+            for (int minute = 1; minute <= 12; minute++) {
+                int due = minute % 2 == 1 && heard[minute / 2 % 3] == who ? 1 : 0;
+                x.noteHeard(minute % 2, who, minute, true);
+                check.due("fits(3) by " + who + " in MINUTE " + minute, x.fits(3), due);
+                x.strike();
+            }
         }
     }
 
@@ -673,6 +781,64 @@ final class NotesEdges {
             mornings.merge(tipped + " " + first + " " + last + " " + gone, 1, Integer::sum);
         }
         return mornings.values().stream().mapToInt(Integer::intValue).max().orElse(0);
+    }
+
+    private void morningOfOnePart() {
+        // All go to r, which may be cold. If one of three, whichever, has done something first, the morning is another than
+        // if none has; a second who would do it again can't, and stays.
+        for (char r = 'b'; r <= 'h'; r++) {
+            for (String cold : new String[] {"", "" + r}) {
+                String rooms = star(4, cold).substring(0, star(4, cold).indexOf(";door"));
+                String things = ";thing k in h full;thing l in h full;thing m in h full;thing n in h full";
+                String dreams = ";dream dw 0 go " + r + " then 0;dream dx 0 ? then 1;dream dx 1 go " + r + " then 1" + threeIn("a");
+                char other = r == 'c' ? 'd' : 'c';
+                check.promise(30, "MORNING: how each door is, whatever else is so");
+                for (int d = 0; d < 9; d++) {
+                    String doors = doorsWith(d, ";door a," + other, ";door a," + r);
+                    NightInn x = check.told(rooms + doors + things + dreams.replace("?", "shut " + other));
+                    check.due("parts(0) by door " + d + ", all in " + r, x.parts(0), 3);
+                }
+                check.promise(30, "MORNING: of each THING, whatever else is so");
+                for (int t = 0; t < 4; t++) {
+                    char name = "klmn".charAt(t);
+                    NightInn x = check.told(rooms + doorsWith(0, ";door a," + other, ";door a," + r)
+                        + things.replace(name + " in h", name + " in a") + dreams.replace("?", "tip " + name));
+                    check.due("parts(0) by THING " + t + " tipped, all in " + r, x.parts(0), 3);
+                }
+            }
+        }
+        check.promise(30, "MORNING: where each sleeper is, whatever else is so");
+        for (String how : new String[] {" shut", " locked"}) {
+            String rooms = star(3, "").substring(0, star(3, "").indexOf(";door"));
+            String others = ";door b,c?;door b,d?;door b,e?;door b,f?;door b,g?;door c,d?;door c,e?;door c,f?;door c,g?".replace("?", how);
+            String things = ";thing k in h full;thing l in h full;thing m in h full;thing n in h full";
+            for (String doors : new String[] {";door a,h" + others, others + ";door a,h"}) {
+                for (String thing : new String[] {"", things}) {
+                    NightInn x = check.told(rooms + doors + thing + ";dream dw 0 wait then 0;dream dx 0 go h then 0" + threeIn("a"));
+                    check.due("parts(0), the other doors being" + how, x.parts(0), 1);
+                    NightInn from = check.told(rooms + doors + thing + ";dream dw 0 wait then 0;dream dx 0 go a then 0" + threeIn("h"));
+                    check.due("parts(0) from h, the other doors being" + how, from.parts(0), 1);
+                }
+            }
+        }
+    }
+
+    /** Ten doors, the last but one of which leads to where all go; the one at a place is another of a's. */
+    private static String doorsWith(int place, String one, String last) {
+        String[] others = {";door b,g", ";door b,h", ";door c,g", ";door c,h", ";door d,g", ";door d,h", ";door e,g", ";door e,h"};
+        StringBuilder text = new StringBuilder();
+        int next = 0;
+        for (int d = 0; d < 10; d++) {
+            if (d == place) {
+                text.append(one);
+            } else if (d == 9) {
+                text.append(last);
+            } else {
+                text.append(others[next]);
+                next++;
+            }
+        }
+        return text.toString();
     }
 
     private void morningOfWhoListens() {

@@ -47,6 +47,7 @@ final class TextEdges {
         innRefusedByANumber();
         innRefusedByAFault();
         innAnew();
+        innBehindAGreaterOne();
         fault();
         where();
     }
@@ -208,6 +209,12 @@ final class TextEdges {
                 String other = "mmmmmmmm".substring(0, place) + letter + "mmmmmmmm".substring(place + 1);
                 String text = "room mmmmmmmm creak 1;room !" + other + " creak";
                 check.faultyAt(letter == 'm' ? text : text.replace("!", "") + "!", letter == 'm' ? 3 : 1);
+            }
+        }
+        for (char one = 'a'; one <= 'z'; one++) {
+            for (int two = 0; two < 26 * 26; two++) {
+                String other = "" + (char) ('a' + two / 26) + (char) ('a' + two % 26);
+                check.faultyAt("room " + one + " creak 1;listens !" + other, other.equals("go") ? 1 : 2);
             }
         }
         for (int letters = 1; letters < 8; letters++) {
@@ -583,6 +590,10 @@ final class TextEdges {
                 }
             }
         }
+        // All names that there can be, up to the last one.
+        for (String name : new String[] {"a", "h", "k", "n", "p", "q", "r"}) {
+            check.faultyAt(NightEdges.FULL + ";dream !" + name, 3);
+        }
         check.promise(4, "3 the second ROOM of a door that is the first; at it");
         check.faultyAt(TWO + "door a,!a", 3);
         check.faultyAt(TWO + "door b,!b", 3);
@@ -795,6 +806,36 @@ final class TextEdges {
         check.due("by DREAMS as told", x.called(0, 0, 3), 1);
         x.nightfall(0);
         check.due("DREAM at the next nightfall", x.sleeper(0, 4), 0);
+    }
+
+    private void innBehindAGreaterOne() {
+        check.promise(3, "the INN from now on: nothing of the one before");
+        NightInn x = new NightInn();
+        String small = "inn minutes 2;room z creak 4;dream c 1 wait then 0;sleeper b bed z dreams c";
+        int[] sizes = {1, 0, 0, 1, 1, 0, 2, 0, 0, 0, 0, 0};
+        // An INN that is read has the place of the last but one: so each is told twice.
+        for (int turn = 0; turn < 3; turn++) {
+            check.due("inn() of all there is room for", Check.tell(x, NightEdges.FULL), 3);
+            check.due("inn() of it again", Check.tell(x, NightEdges.FULL), 3);
+            for (int times = 0; times < 2; times++) {
+                check.due("inn() of little", Check.tell(x, small), 1);
+                for (int what = 0; what < sizes.length; what++) {
+                    check.due("size(" + what + ") of little", x.size(what), sizes[what]);
+                }
+                check.due("creak", x.room(0, 0), 4);
+                check.due("cold", x.room(0, 1), 0);
+                check.due("STATE 0, not told any more", x.dream(0, 0, 0), -1);
+                check.due("STATE 1", x.dream(0, 1, 0), 4);
+                check.due("fits(0)", x.fits(0), 1);
+            }
+        }
+        for (String name : new String[] {"a", "h", "k", "x", "p"}) {
+            NightInn y = check.told(NightEdges.FULL);
+            Check.tell(y, "room zz creak 1;listens " + name);
+            check.due("a NAME of the INN before isn't told: " + name, y.fault(), 2);
+            Check.tell(y, small.replace("room z", "room " + name).replace("bed z", "bed " + name));
+            check.due("a NAME of the INN before may be told: " + name, y.fault(), 0);
+        }
     }
 
     private void fault() {
