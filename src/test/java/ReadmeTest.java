@@ -1,35 +1,43 @@
 import java.io.ByteArrayOutputStream;
 import java.io.IOException;
 import java.io.PrintStream;
+import java.lang.reflect.InvocationTargetException;
+import java.lang.reflect.Method;
+import java.lang.reflect.Modifier;
 import java.nio.file.Files;
 import java.nio.file.Path;
+import java.util.List;
 import java.util.Map;
+import java.util.NoSuchElementException;
 import java.util.Set;
 import java.util.TreeMap;
 import java.util.TreeSet;
+import java.util.function.Supplier;
 import java.util.regex.Matcher;
 import java.util.regex.Pattern;
 import java.util.stream.Collectors;
 import java.util.stream.Stream;
 
-/** What README.md says is so: its example, its table of troubles, its table of tests. */
+/** What README.md says is so of the class: its example, its table of troubles, its table of tests. */
 public final class ReadmeTest {
     private static final Path README = Path.of("README.md");
-    private static final Path DOC = Path.of("../shared/DOC.md");
     private static final Path TESTS = Path.of("src/test/java");
 
-    private static final Pattern PROMISE = Pattern.compile("## Promise \\d+: (\\w+)\n\n(.*)");
-    private static final Pattern REFUSAL = Pattern.compile("(?:NONE|false): (\\d[^.]*)\\.");
-    private static final Pattern TROUBLE_ROW = Pattern.compile("(?m)^\\| (\\d) \\| [^|]* \\| ([^|]*) \\|$");
+    private static final Pattern TROUBLE_ROW = Pattern.compile("(?m)^\\| (\\d) \\| [^|]* \\| ([^|]*)\\|$");
+    private static final Pattern QUIET = Pattern.compile("Neither changes `trouble\\(\\)`, nor do ([^:.]*)\\.");
     private static final Pattern TEST_ROW = Pattern.compile("(?m)^\\| `(\\w+Test)` \\|");
     private static final Pattern CALL = Pattern.compile("`(\\w+)`");
 
+    private static final String INN = "inn minutes 3;room a creak 1;room b creak 2;door a,b;thing k in a;"
+        + "dream x 0 go b then 0;dream y 0 wait then 0;sleeper p bed a dreams x;listens a";
+    private static final int[] NUMBERS = {-1, 0, 1, 99};
+
     private static final Check check = new Check();
 
-    public static void main(String[] args) throws IOException {
+    public static void main(String[] args) throws IOException, ReflectiveOperationException {
         String readme = Files.readString(README);
         example(readme);
-        troubles(readme, Files.readString(DOC));
+        troubles(readme);
         tests(readme);
         check.end();
     }
@@ -51,38 +59,105 @@ public final class ReadmeTest {
         System.setOut(new PrintStream(bytes, true));
         ReadmeExample.main(new String[0]);
         System.setOut(before);
-        return bytes.toString().replace("\r\n", "\n");
+        return bytes.toString().replace(System.lineSeparator(), "\n");
     }
 
-    /** The calls that README.md names beside each trouble are those of which the document tells its number. */
-    private static void troubles(String readme, String doc) {
-        Map<String, Set<String>> due = new TreeMap<>();
-        Matcher promise = PROMISE.matcher(doc);
-        while (promise.find()) {
-            for (String number : numbersOf(promise.group(2))) {
-                due.computeIfAbsent(number, n -> new TreeSet<>()).add(promise.group(1));
+    /** Each call is asked in many ways, to see which troubles it makes, and whether it leaves an old one as it is. */
+    private static void troubles(String readme) throws ReflectiveOperationException {
+        Map<Integer, Set<String>> made = new TreeMap<>();
+        Set<String> quiet = new TreeSet<>();
+        for (Method call : NightInn.class.getDeclaredMethods()) {
+            if (Modifier.isPublic(call.getModifiers())) {
+                Set<Integer> behindOne = behind(call, x -> x.far(-1, -1));
+                Set<Integer> behindTwo = behind(call, x -> x.inn(-1));
+                if (behindOne.equals(Set.of(1)) && behindTwo.equals(Set.of(2))) {
+                    quiet.add(call.getName());
+                    continue;
+                }
+                check.due("troubles of " + call.getName(), behindOne.toString(), behindTwo.toString());
+                for (int trouble : behindOne) {
+                    made.computeIfAbsent(trouble, t -> new TreeSet<>()).add(call.getName());
+                }
             }
         }
-        Map<String, Set<String>> told = new TreeMap<>();
+        // Not being refused is no row of the table.
+        made.remove(0);
+        check.due("the calls of each trouble", rows(readme).toString(), made.toString());
+        check.due("the calls that leave trouble() as it is", quiet(readme).toString(), quiet.toString());
+    }
+
+    private interface Ahead {
+        int of(NightInn x);
+    }
+
+    private static Set<Integer> behind(Method call, Ahead ahead) throws ReflectiveOperationException {
+        List<Supplier<NightInn>> states = List.of(NightInn::new, () -> check.told(INN), ReadmeTest::used);
+        Set<Integer> found = new TreeSet<>();
+        int ways = (int) Math.pow(NUMBERS.length, call.getParameterCount());
+        for (Supplier<NightInn> state : states) {
+            for (int way = 0; way < ways; way++) {
+                NightInn x = state.get();
+                ahead.of(x);
+                ask(x, call, way);
+                found.add(x.trouble());
+            }
+        }
+        return found;
+    }
+
+    /** A night that is over, all marks and notes that there is room for, no cast that fits. */
+    private static NightInn used() {
+        NightInn x = check.told(INN);
+        x.morning();
+        for (int i = 0; i < 3; i++) {
+            x.mark();
+        }
+        for (int i = 0; i < 20; i++) {
+            x.noteHeard(i % 2, 0, 1, i % 2 == 0);
+        }
+        return x;
+    }
+
+    private static void ask(NightInn x, Method call, int way) throws ReflectiveOperationException {
+        Object[] with = new Object[call.getParameterCount()];
+        int left = way;
+        for (int i = 0; i < with.length; i++) {
+            int number = NUMBERS[left % NUMBERS.length];
+            with[i] = call.getParameterTypes()[i] == boolean.class ? (Object) (number > 0) : (Object) number;
+            left /= NUMBERS.length;
+        }
+        try {
+            call.invoke(x, with);
+        } catch (InvocationTargetException thrown) {
+            check.due(call.getName() + " throws " + thrown.getCause(),
+                call.getName().equals("led") && thrown.getCause() instanceof NoSuchElementException, true);
+        }
+    }
+
+    private static Map<Integer, Set<String>> rows(String readme) {
+        Map<Integer, Set<String>> told = new TreeMap<>();
         Matcher row = TROUBLE_ROW.matcher(readme);
         while (row.find()) {
-            Set<String> calls = CALL.matcher(row.group(2)).results().map(m -> m.group(1)).collect(Collectors.toSet());
+            Set<String> calls = calls(row.group(2));
             if (!calls.isEmpty()) {
-                told.put(row.group(1), new TreeSet<>(calls));
+                told.put(Integer.parseInt(row.group(1)), calls);
             }
         }
-        check.due("the calls of each trouble", told.toString(), due.toString());
+        return told;
     }
 
-    private static Set<String> numbersOf(String promise) {
-        Set<String> numbers = new TreeSet<>();
-        Matcher refusal = REFUSAL.matcher(promise);
-        if (refusal.find()) {
-            for (String one : refusal.group(1).replaceAll("\\([^)]*\\)", "").split(";")) {
-                numbers.add(one.trim());
-            }
+    /** Those that the sentence names, and the two ahead of it. */
+    private static Set<String> quiet(String readme) {
+        Set<String> told = new TreeSet<>(Set.of("feed", "size"));
+        Matcher sentence = QUIET.matcher(readme);
+        if (sentence.find()) {
+            told.addAll(calls(sentence.group(1)));
         }
-        return numbers;
+        return told;
+    }
+
+    private static Set<String> calls(String text) {
+        return CALL.matcher(text).results().map(m -> m.group(1)).collect(Collectors.toCollection(TreeSet::new));
     }
 
     private static void tests(String readme) throws IOException {
